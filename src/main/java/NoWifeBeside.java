@@ -843,13 +843,13 @@ public final class NoWifeBeside {
             if (room > seatings.length) {
                 seatings = new int[room];
             }
-            seatFrom(party, 0, 0, 0);
+            seatFrom(this, party, 0, 0, 0);
         }
 
-        private void seatFrom(Party party, int chair, int seated, int seating) {
+        private static void seatFrom(Lawful into, Party party, int chair, int seated, int seating) {
             if (chair >= party.people || chair >= MOST_PEOPLE) {
                 if (party.isLawful(seating)) {
-                    add(seating);
+                    into.add(seating);
                 }
                 return;
             }
@@ -859,7 +859,7 @@ public final class NoWifeBeside {
             }
             for (int person = 0; person < party.people && person < MOST_PEOPLE; person++) {
                 if ((out >> person & 1) == 0) {
-                    seatFrom(party, chair + 1, seated | 1 << person, Seating.with(seating, chair, person));
+                    seatFrom(into, party, chair + 1, seated | 1 << person, Seating.with(seating, chair, person));
                 }
             }
         }

@@ -241,6 +241,9 @@ public final class PromiseTest {
         faultOf("Mr00CW019W103", NONE);
         faultOf("Mr00CW019W103W", 13);
         faultOf("Mr00CW019W103Q01", NONE);
+        faultOf("Mr00CW103W", 10);
+        faultOf("Mr00CW103W1", 10);
+        faultOf("Mr00CW103W0", 11);
         faultOf("Mr00CSwW019W01", 13);
     }
 
@@ -310,6 +313,12 @@ public final class PromiseTest {
         due("worths are gone", x.worth(0, 1), 0);
         due("quarrels are gone", x.person(0, 3), 0);
         due("lawful anew", x.many(false), 2);
+        for (int k = 0; k < 3; k++) {
+            retell(x, k == 0 ? "Mr11CSw" : "Ml00SmSmSm");
+        }
+        due("women are gone", x.count(2), 0);
+        due("couples are gone", x.person(0, 2), NONE);
+        due("all is lawful", x.many(false), 6);
     }
 
     private static void person(NoWifeBeside x, int what, int... want) {
@@ -419,6 +428,7 @@ public final class PromiseTest {
         manyOf("Mr10CSw", 0, 0);
         manyOf("Ml10CSw", 2, 2);
         manyOf("Ml01CT01", 0, 0);
+        manyOf("Ml01CSmSwQ12", 4, 4);
     }
 
     private static void luckOf(String text, int above, int below) {
@@ -627,7 +637,11 @@ public final class PromiseTest {
         due("the hundredth", x.dinner(), FULL);
         due("dined(0, 1)", x.dined(0, 1), 99);
         x.take(1);
-        due("only one of two pairs is full", x.dinner(), FULL);
+        due("only the last pair is full", x.dinner(), FULL);
+        due("dined(0, 2)", x.dined(0, 2), 0);
+        x.undo();
+        x.take(2);
+        due("only the first pair is full", x.dinner(), FULL);
         due("dined(0, 2)", x.dined(0, 2), 0);
         due("acts", x.count(6), 16);
         due("undo()", x.undo(), 15);
@@ -677,6 +691,19 @@ public final class PromiseTest {
         due("dined(1, 2)", x.dined(1, 2), 0);
         due("dined(0, 2)", x.dined(0, 2), 1);
         due("dined(0, 1)", x.dined(0, 1), 1);
+        x = at("Ml00C");
+        x.dinner();
+        due("undo() of a dinner, the only act", x.undo(), 0);
+        due("dined(0, 1)", x.dined(0, 1), 0);
+        for (int k = 0; k < 12; k++) {
+            x.dinner();
+            x.swap(0, 1);
+        }
+        x.dinner();
+        for (int k = 15; k >= 0; k--) {
+            x.undo();
+            due("dined(0, 1)", x.dined(0, 1), 13 - (17 - k) / 2);
+        }
     }
 
     private static void promise21() {
@@ -712,6 +739,7 @@ public final class PromiseTest {
         due("worthOf(false) of 102", x.worthOf(false), 17);
         due("worthOf(false) round", at("Mr00CSwW015W103W029").worthOf(false), 17);
         due("worthOf(false) of two", at("Mr00CW015W103").worthOf(false), 8);
+        due("bestAt(0), the first that is asked", at("Ml00CSwW015W103W029").bestAt(0), 1);
         best("Ml00CSwW015W103W029", 17, "102");
         best("Ml00CSwQ01W015W103W029", 9, "021");
         best("Ml00CSw", 0, "012");
@@ -752,6 +780,7 @@ public final class PromiseTest {
         for (int no : NO_PERSONS) {
             due("fewAt(" + no + ")", x.fewAt(no), UNKNOWN);
         }
+        due("fewAt(1), the first that is asked", at("Ml00CSwQ01").fewAt(1), 2);
         x = at("Mr00CSwQ01");
         due("few() of none", x.few(), NONE);
         due("fewAt(0) of none", x.fewAt(0), NONE);
@@ -798,6 +827,7 @@ public final class PromiseTest {
         due("021 to 012, which is unlawful", x.changes(0), 1);
         x.swap(0, 1);
         due("120 to 012 over 021", x.changes(0), 2);
+        due("120 to 012 over 021 again", x.changes(0), 2);
         x.again(0);
         x.swap(0, 1);
         due("102 to 012, both unlawful", x.changes(0), 1);
@@ -809,6 +839,7 @@ public final class PromiseTest {
         x.undo();
         x.swap(0, 1);
         due("102 to 210 over 120", x.changes(1), 2);
+        due("102 to 210 over 120 again", x.changes(1), 2);
         x = at("Mr00CSwQ01");
         x.keep(0);
         x.swap(0, 1);
@@ -876,6 +907,7 @@ public final class PromiseTest {
         for (int no : NO_PERSONS) {
             due("sat(" + no + ", 0)", x.sat(no, 0), UNKNOWN);
         }
+        due("sat(2, 0), the first that is asked", at("Ml00CSwQ01").sat(2, 0), 2);
         promise = 29;
         retell(x, "Ml00SwSw");
         due("one of two is gone", x.fits(0), 2);
