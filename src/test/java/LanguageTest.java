@@ -10,10 +10,9 @@ import java.util.HashSet;
 import java.util.List;
 import java.util.Set;
 import java.util.TreeSet;
-import java.util.regex.Matcher;
 import java.util.regex.Pattern;
 
-/** The public face, those rules of LANGUAGE.md that can be seen from outside or in the source, and what a run makes. */
+/** The public face, the words that the source never has, and what a run makes; RulesTest has the other rules. */
 public final class LanguageTest {
     private static final Path SOURCE = Path.of("src/main/java/NoWifeBeside.java");
     private static final String[] FACE = {
@@ -34,7 +33,6 @@ public final class LanguageTest {
         constants();
         nested();
         source();
-        methodLengths();
         whatARunMakes();
         System.out.println(wrong == 0 ? "the rules that can be seen are kept" : wrong + " rules are not kept");
         if (wrong > 0) {
@@ -125,27 +123,6 @@ public final class LanguageTest {
         for (String word : NEVER) {
             String pattern = Character.isLetter(word.charAt(0)) ? "\\b" + word + "\\b" : Pattern.quote(word);
             must(!Pattern.compile(pattern).matcher(code).find(), "no " + word);
-        }
-        must(!Pattern.compile("static\\s*\\{").matcher(code).find(), "no static block");
-        must(!Pattern.compile("\\bwhile\\b").matcher(code).find(), "each loop has a counter");
-        Matcher library = Pattern.compile("\\b(Math|Integer|Long)\\.(\\w+)").matcher(code);
-        while (library.find()) {
-            must(Set.of("max", "min", "abs", "bitCount").contains(library.group(2)), "no " + library.group());
-        }
-    }
-
-    private static void methodLengths() throws Exception {
-        String[] lines = Files.readString(SOURCE).split("\n");
-        Pattern head = Pattern.compile("^( {4}| {8})(?!private static final class)\\S.*\\) \\{$");
-        for (int k = 0; k < lines.length; k++) {
-            Matcher start = head.matcher(lines[k]);
-            if (start.find()) {
-                int end = k;
-                while (end < lines.length && !lines[end].equals(start.group(1) + "}")) {
-                    end++;
-                }
-                must(end - k <= 60, "short: " + lines[k].trim());
-            }
         }
     }
 
